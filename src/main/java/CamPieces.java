@@ -424,8 +424,8 @@ public final class CamPieces {
     private boolean standAt(int angle, int side) {
         int size = train.size(), total = train.total();
         if (size == 0 || angle < 0 || angle > total || side < 0 || side > 1) return false;
-        if (angle == 0 && side == 0) return train.isClosed() && standAtEnd(size - 1);
-        if (angle == total && side == 1) return train.isClosed() && standAtBegin(0);
+        if (angle == 0 && side == 0) return train.isClosed() && standIn(size - 1, train.longOf(size - 1));
+        if (angle == total && side == 1) return train.isClosed() && standIn(0, 0);
         int begin = 0;
         for (int k = 0; k < size; k++) {
             int u = angle - begin, length = train.longOf(k);
@@ -434,14 +434,6 @@ public final class CamPieces {
             begin += length;
         }
         return false;
-    }
-
-    private boolean standAtBegin(int k) {
-        return standIn(k, 0);
-    }
-
-    private boolean standAtEnd(int k) {
-        return standIn(k, train.longOf(k));
     }
 
     private boolean standIn(int k, int u) {
@@ -490,11 +482,12 @@ public final class CamPieces {
 
     /** Reckons by how much SLOPE or BEND jumps at a join that is there; the ratio holds it then. */
     private void reckonJump(int join, int what) {
-        standAtEnd(pieceAhead(join));
+        int ahead = pieceAhead(join);
+        standIn(ahead, train.longOf(ahead));
         ratioAhead.become(what == SLOPE ? spot.slope : spot.bend, spot.below);
         // At the ends of a piece lowest terms have LONG times LONG at most below the line: the products stay small.
         ratioAhead.lower();
-        standAtBegin(join);
+        standIn(join, 0);
         ratio.become(what == SLOPE ? spot.slope : spot.bend, spot.below);
         ratio.lower();
         ratio.take(ratioAhead);
@@ -513,9 +506,10 @@ public final class CamPieces {
         if (!hasJoin(join)) return 0;
         reckonJump(join, SLOPE);
         boolean jumps = ratio.above != 0;
-        standAtEnd(pieceAhead(join));
+        int ahead = pieceAhead(join);
+        standIn(ahead, train.longOf(ahead));
         boolean slopesAhead = spot.slope != 0;
-        standAtBegin(join);
+        standIn(join, 0);
         boolean slopesBehind = spot.slope != 0;
         return (jumps ? 1 : 0) | (slopesAhead ? 2 : 0) | (slopesBehind ? 4 : 0);
     }
@@ -942,12 +936,12 @@ public final class CamPieces {
 
         long read(int row, int i) {
             int place = row * MOST_PLACES + i;
-            return hasPlace(row, i) && place < places.length ? places[place] : NO;
+            return hasPlace(row, i) && place >= 0 && place < places.length ? places[place] : NO;
         }
 
         void write(int row, int i, long v) {
             int place = row * MOST_PLACES + i;
-            if (hasPlace(row, i) && place < places.length) places[place] = v;
+            if (hasPlace(row, i) && place >= 0 && place < places.length) places[place] = v;
         }
     }
 

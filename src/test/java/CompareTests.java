@@ -26,7 +26,7 @@ public final class CompareTests {
     }
 
     public static void main(String[] args) {
-        int runs = args.length > 0 ? Integer.parseInt(args[0]) : 150;
+        int runs = args.length > 0 ? Integer.parseInt(args[0]) : 60;
         Checks checks = new Checks("random runs");
         for (int run = 0; run < runs && !checks.hasWrong(); run++) new CompareTests(checks, run).play();
         checks.end();

@@ -50,7 +50,7 @@ public final class GreatNumbersTests {
 
     private void askWith(int... settings) {
         for (int what = 0; what < settings.length; what++) tell(what, settings[what]);
-        for (int angle = 0; angle <= 360; angle += angle < 14 || angle > 346 ? 1 : 3) {
+        for (int angle = 0; angle <= 360; angle += angle < 14 || angle > 346 ? 1 : 7) {
             same("sample", cam.sample(angle), slow.sample(angle));
             for (int part = 0; part < 2; part++) {
                 int side = angle % 2;

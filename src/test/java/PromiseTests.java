@@ -216,6 +216,9 @@ public final class PromiseTests {
         CamPieces x = cam(LINE, 10, 5, LINE, 10, -5, LINE, 10, 5, START, 10, 5, LINE, 11, 5, LINE, 10, 5);
         due("three", x.alike(2), 3);
         due("other rise", x.alike(1), 1);
+        x.drop();
+        due("a dropped one counts no more", x.alike(2), 2);
+        x.piece(LINE, 10, 5);
         due("other kind", x.alike(3), 1);
         due("other length", x.alike(4), 1);
         for (int k : new int[] {-1, 6, 12, LOW, HIGH}) due("piece " + k, x.alike(k), -1);
@@ -285,6 +288,9 @@ public final class PromiseTests {
         dueAt(x, 360, 1, 0, 0, 1);
         dueAt(x, 120, 0, 2, 1, 1200);
         dueAt(x, 120, 1, 2, -1, 1200);
+        CamPieces y = cam(START, 120, 6, LINE, 200, -3, CUBIC, 40, -3);
+        dueAt(y, 0, 0, 2, 9, 800);
+        dueAt(y, 360, 0, 2, 9, 800);
         x.put(2, 2, -11);
         due("not closed any more", x.at(0, 0, 0, 0), NO);
         due("not closed any more", x.at(360, 1, 0, 0), NO);
@@ -346,6 +352,9 @@ public final class PromiseTests {
         dueNumbers("of several the first", new long[] {x.extreme(0), x.extreme(1)}, 10, 30);
         x = cam(LINE, 10, -5, LINE, 10, 4);
         dueNumbers("below 0", new long[] {x.extreme(0), x.extreme(1)}, 0, 10);
+        x = cam(LINE, 10, 1, LINE, 10, 1);
+        x.drop();
+        dueNumbers("up by 1", new long[] {x.extreme(0), x.extreme(1)}, 10, 0);
         x = cam(DWELL, 10, 0);
         dueNumbers("level", new long[] {x.extreme(0), x.extreme(1)}, 0, 0);
         for (int what : new int[] {-1, 2, LOW, HIGH}) due("what " + what, x.extreme(what), -1);
@@ -398,6 +407,9 @@ public final class PromiseTests {
         due("reach is 0", x.pressure(5, 0, 1), NO);
         due("reach is below 0", x.pressure(6, 0, 1), NO);
         dueFraction("reach is 1", x.pressure(4, 1, 0), x.pressure(4, 1, 1), -57, 1);
+        x = cam(LINE, 1, -4);
+        x.tell(0, 5);
+        dueFraction("reach is 1 of a LONG of 1", x.pressure(1, 0, 0), x.pressure(1, 0, 1), -228, 1);
         x = cam(DWELL, 10, 0);
         dueFraction("level", x.pressure(5, 0, 0), x.pressure(5, 0, 1), 0, 1);
     }
@@ -444,6 +456,18 @@ public final class PromiseTests {
         due("both ends, angle 0 and 360 from either side", x.count(0), 2);
         x.tell(3, 0);
         due("floats at both ends, and near", x.count(1) >= 2 ? 1 : 0, 1);
+        x = cam(DWELL, 9, 0);
+        x.tell(0, 1);
+        x.tell(3, 1);
+        due("1 is not undercut", x.count(0), 0);
+        due("1 floats not", x.count(1), 0);
+        x = cam(STOP, 180, 99, LINE, 180, -99);
+        x.tell(0, 19);
+        due("360 from side 1 alone", x.count(0), 2);
+        x = cam(STOP, 180, 99, LINE, 10, -9, LINE, 10, -9, LINE, 10, -9, LINE, 10, -9, LINE, 10, -9, LINE, 10, -9,
+            LINE, 10, -9, LINE, 10, -9, LINE, 10, -9, LINE, 10, -9, LINE, 80, -9);
+        x.tell(0, 19);
+        due("360 from side 1 alone, with twelve pieces", x.count(0), 2);
     }
 
     private void p21LeastRadius() {
@@ -466,7 +490,11 @@ public final class PromiseTests {
 
     private void p22Steepest() {
         due("none", new CamPieces().steepest(), -5);
-        due("level", cam(DWELL, 9, 0).steepest(), 0);
+        CamPieces low = cam(DWELL, 9, 0);
+        due("level", low.steepest(), 0);
+        low.tell(0, 1);
+        due("level and low", low.steepest(), 0);
+        due("1/20 and 1/10", cam(LINE, 20, 1, LINE, 10, 1).steepest(), 20);
         due("least reach", cam(LINE, 10, 5).steepest(), 0);
         due("least reach at the end", cam(LINE, 10, -5).steepest(), 10);
         due("within", cam(DWELL, 10, 0, CUBIC, 20, 2).steepest(), 20);
@@ -494,6 +522,8 @@ public final class PromiseTests {
         due("1", x.gentle(1), 570);
         due("999", x.gentle(999), 1);
         due("of a fall", cam(LINE, 90, -9).gentle(57), 19);
+        // 41 times 139 is 5699, 1 less than 100 times 57.
+        due("hardly too steep", cam(LINE, 1, 1).gentle(41), 140);
         due("too steep", cam(LINE, 10, 99).gentle(50), -5);
         // 99 by (RADIUS less 99) is 11 hundredths at 999.
         due("999, just so", cam(LINE, 57, -99).gentle(11), 999);
@@ -515,6 +545,8 @@ public final class PromiseTests {
         x = cam(DWELL, 9, 0);
         x.tell(3, 0);
         due("0 floats", x.floating(), 0);
+        x.tell(3, 1);
+        due("1 floats not", x.floating(), -5);
         x = cam(STOP, 180, 99, START, 180, -99);
         x.tell(3, 19);
         due("closed: from both sides", x.floating(), 0);
@@ -587,6 +619,8 @@ public final class PromiseTests {
         CamPieces x = cam(START, 57, 1, STOP, 57, 3);
         // At 57: 10 + 1 - 6 SPEED SPEED.
         due("1", x.fastest(), 1);
+        x.tell(3, 5);
+        due("0, as 6 less 6 floats", x.fastest(), 0);
         x.tell(3, 53);
         due("54 is 6 times 9: 2", x.fastest(), 2);
         x.tell(3, 54);
@@ -623,7 +657,11 @@ public final class PromiseTests {
         due("closed", cam(LINE, 180, 1, LINE, 180, -1).smoothed(), 3);
         due("join 0 alone", cam(STOP, 180, 1, CUBIC, 180, -1).smoothed(), 1);
         due("open: no join 0", cam(STOP, 180, 1, CUBIC, 179, -1).smoothed(), 0);
-        CamPieces x = cam(LINE, 9, 1, LINE, 9, -1);
+        CamPieces x = cam(CUBIC, 9, 1, LINE, 9, -1);
+        due("ahead of drop", x.smoothed(), 2);
+        x.drop();
+        due("behind drop", x.smoothed(), 0);
+        x = cam(LINE, 9, 1, LINE, 9, -1);
         x.smoothed();
         duePieces(x, LINE, 9, 1, LINE, 9, -1);
         due("twelve", cam(LINE, 9, 1, LINE, 9, -1, LINE, 9, 1, LINE, 9, -1, LINE, 9, 1, LINE, 9, -1, LINE, 9, 1, LINE, 9, -1,
@@ -667,6 +705,14 @@ public final class PromiseTests {
         x.tell(5, 1);
         // SAMPLES 0 0 1 1 1 1 1; line 0 to 1 at 3: 1/3, 2/3.
         dueFraction("of SAMPLES, not of LIFT", x.error(3, 0), x.error(3, 1), 1, 3);
+        x = cam(DWELL, 3, 0, LINE, 1, 9);
+        x.tell(5, 1);
+        dueFraction("a last line of 1", x.error(3, 0), x.error(3, 1), 0, 1);
+        x.piece(LINE, 1, -8);
+        // 0 0 0 0 9 1: the line from 3 to 5 is 1/2 at 4.
+        dueFraction("a last line of 2", x.error(3, 0), x.error(3, 1), 17, 2);
+        x = cam(LINE, 360, 90);
+        dueFraction("to 360", x.error(60, 0), x.error(60, 1), 0, 1);
     }
 
     private void p31Widest() {
@@ -756,6 +802,11 @@ public final class PromiseTests {
         x.lay(0, 0, 12, 1, 2);
         // 0 and, of 7 over 9: 7/9, 7/81, 7 times 17/81, 7 times 25/729 ..: 1 for LINE and STOP alone.
         due("coarse", x.seen(0, 0, 2, 3), 1 << LINE | 1 << STOP);
+        x = cam(LINE, 40, 7);
+        x.list(0, 30);
+        x.lay(0, 0, 0, 1, 30);
+        due("30", x.seen(0, 0, 30, 0), 1 << LINE);
+        due("31", x.seen(0, 0, 31, 0), -2);
     }
 
     private void p34Feed() {
@@ -808,6 +859,11 @@ public final class PromiseTests {
         dueCam(x, "", -100, 5);
         dueCam(x, "dwel", -100, 1);
         dueCam(x, "dwelll 5", -100, 1);
+        dueCam(x, "dwellz 5", -100, 1);
+        dueCam(x, "adwell 5", -100, 1);
+        dueCam(x, "dwella 5", -100, 1);
+        dueCam(x, "dwell{ 5", -105, 4);
+        dueCam(x, "dwell` 5", -105, 4);
         dueCam(x, " dwell 5", -100, 1);
         dueCam(x, "5", -100, 1);
         dueCam(x, ";", -100, 1);
