@@ -42,15 +42,25 @@ public final class GreatNumbersTests {
     }
 
     private void askAll(int kind, int pieces, int length, int rise) {
-        build(kind, pieces, length, rise);
-        askWith(999, 20, 99, 9999, 30, 1000);
-        askWith(1, 1, 1, 0, 1, 1);
-        askWith(999, 1, 99, 9999, 1, 999);
+        int[][] settings = {{999, 20, 99, 9999, 30, 1000}, {1, 1, 1, 0, 1, 1}, {999, 1, 99, 9999, 1, 999}};
+        for (int[] some : settings) {
+            // An object answers 512 calls: each part of the questions goes to one of its own.
+            for (int from = 0; from <= 360; from += 90) {
+                buildWith(kind, pieces, length, rise, some);
+                askAngles(from, Math.min(from + 89, 360));
+            }
+            buildWith(kind, pieces, length, rise, some);
+            askThoughts();
+        }
     }
 
-    private void askWith(int... settings) {
+    private void buildWith(int kind, int pieces, int length, int rise, int... settings) {
+        build(kind, pieces, length, rise);
         for (int what = 0; what < settings.length; what++) tell(what, settings[what]);
-        for (int angle = 0; angle <= 360; angle += angle < 14 || angle > 346 ? 1 : 7) {
+    }
+
+    private void askAngles(int from, int to) {
+        for (int angle = from; angle <= to; angle += angle < 14 || angle > 346 ? 1 : 7) {
             same("sample", cam.sample(angle), slow.sample(angle));
             for (int part = 0; part < 2; part++) {
                 int side = angle % 2;
@@ -62,6 +72,9 @@ public final class GreatNumbersTests {
                 same("force", cam.force(angle, side, part), slow.force(angle, side, part));
             }
         }
+    }
+
+    private void askThoughts() {
         for (int n : new int[] {20, 999}) same("gentle " + n, cam.gentle(n), slow.gentle(n));
         for (int what = 0; what < 2; what++) same("count", cam.count(what), slow.count(what));
         same("leastRadius", cam.leastRadius(), slow.leastRadius());
