@@ -17,6 +17,7 @@ public final class EdgeCallsTests extends Edge {
         t.seenNumbers(); t.seenBeyond(); t.seenLongAnd1(); t.seenDwell(); t.seenAsDwell(); t.seenWithRisesAhead(); t.seenAll();
         t.seenGrid();
         t.imageAndUndo(); t.noImage(); t.imageOfNone(); t.imageOfTwelve(); t.imageTakenAgain(); t.imageHoldsNoMore();
+        t.calls512();
         t.end();
     }
 
@@ -705,5 +706,20 @@ public final class EdgeCallsTests extends Edge {
         x.cam();
         x.undo();
         due("cause stays", x.cause(), 1);
+    }
+
+    // ---- how many calls
+
+    private void calls512() {
+        says("An object is used for at most 512 calls after it has been made");
+        CamPieces x = new CamPieces();
+        due("call 1", x.image(), 0);
+        for (int call = 2; call <= 510; call += 2) {
+            due("call " + call, x.piece(QUINTIC, 360, 99), 0);
+            due("call " + (call + 1), x.drop(), 0);
+        }
+        due("call 512", x.undo(), 0);
+        CamPieces y = cam(QUINTIC, 180, 99, QUINTIC, 180, -99);
+        for (int call = 3; call <= 512; call++) due("call " + call, y.sample(180), 9900);
     }
 }

@@ -369,6 +369,10 @@ public final class EdgeTermsTests extends Edge {
         CamPieces y = cam(CUBIC, 360, 1);
         y.put(0, 1, 300);
         y.piece(START, 60, -1);
+        CamPieces wide = cam(QUINTIC, 180, 99, QUINTIC, 180, -99);
+        for (int join = 0; join <= 1; join++) {
+            for (int what = 0; what <= 1; what++) dueJump(wide, join, what, 0, 1);
+        }
         // At its end START has SLOPE -1/30, BEND -1/1800; CUBIC begins with 0, 1/15000.
         dueJump(y, 0, 0, 1, 30);
         dueJump(y, 0, 1, 7, 11250);
@@ -457,6 +461,11 @@ public final class EdgeTermsTests extends Edge {
         due("closed: 360 and 0", x.count(0), 2);
         x.put(0, 1, 245);
         due("open: the last", x.count(0), 1);
+        x = twelveClosed(STOP, 114, 11, 1, 136);
+        x.tell(0, 6);
+        due("twelve, closed: 0 and 360, from side 1", x.count(0), 2);
+        x.mirror();
+        due("twelve, closed: 0 and 360, from side 0", x.count(0), 2);
         x = cam(DWELL, 9, 0, STOP, 57, 3, DWELL, 9, 0);
         x.tell(0, 6);
         due("at a join from side 1", x.count(0), 1);
@@ -470,6 +479,15 @@ public final class EdgeTermsTests extends Edge {
         x = cam(LINE, 2, -9, LINE, 2, -9, LINE, 2, -9);
         x.tell(0, 1);
         due("an angle is one, though it is so from both sides", x.count(0), 6);
+    }
+
+    /** A first piece that rises by 12, ten LINES, a last one: down to 0 again. */
+    private static CamPieces twelveClosed(int kind, int length, int each, int fall, int last) {
+        CamPieces x = cam(kind, length, 12);
+        for (int k = 0; k < 10; k++) x.piece(LINE, each, -fall);
+        x.piece(LINE, last, -12 + 10 * fall);
+        if (x.told(6) != 12 || x.told(8) != 1) throw new IllegalStateException("not twelve, closed");
+        return x;
     }
 
     private void pressureIs() {
@@ -549,6 +567,11 @@ public final class EdgeTermsTests extends Edge {
         dueAll("closed: 360 and 0, from side 0", row(x.count(1), x.floating()), 2, 0);
         x.put(0, 1, 245);
         dueAll("open: the last", row(x.count(1), x.floating()), 1, 359);
+        x = twelveClosed(STOP, 114, 11, 1, 136);
+        x.tell(3, 6);
+        dueAll("twelve, closed: 0 and 360, from side 1", row(x.count(1), x.floating()), 2, 0);
+        x.mirror();
+        dueAll("twelve, closed: 0 and 360, from side 0", row(x.count(1), x.floating()), 2, 0);
         x = cam(DWELL, 9, 0, STOP, 57, 3);
         x.tell(3, 6);
         dueAll("at a join from side 1", row(x.count(1), x.floating()), 1, 9);
@@ -616,6 +639,14 @@ public final class EdgeTermsTests extends Edge {
         dueFraction("10: TOTAL alone", x.error(10, 0), x.error(10, 1), 14, 5);
         dueFraction("11: more than TOTAL", x.error(11, 0), x.error(11, 1), 14, 5);
         dueFraction("60: far more", x.error(60, 0), x.error(60, 1), 14, 5);
+        CamPieces even = cam(LINE, 9, 9), bent = cam(DWELL, 4, 0, LINE, 1, 6, LINE, 1, -2, LINE, 1, -1);
+        even.tell(5, 1);
+        bent.tell(5, 1);
+        dueFraction("4: 0, 4, 8, 9: the last line is as even", even.error(4, 0), even.error(4, 1), 0, 1);
+        // 0 0 0 0 0 6 4 3: the line from 4 to 7 is 1 at 5.
+        dueFraction("4: 0, 4, 7: the last line is shorter", bent.error(4, 0), bent.error(4, 1), 5, 1);
+        // From 7 on it is 27/7, of 6 8/3.
+        dueAll("widest by it", row(bent.widest(385), bent.widest(386)), 6, 60);
         CamPieces one = cam(LINE, 1, 99);
         dueFraction("TOTAL 1", one.error(60, 0), one.error(60, 1), 0, 1);
         CamPieces last = cam(DWELL, 359, 0, LINE, 1, 2);

@@ -142,6 +142,14 @@ public final class EdgeTextTests extends Edge {
             dueRefused(word.substring(1) + " 5 5", -100, A_WORD);
             dueRefused("dwell 5;" + word + word + " 5 5", -108, A_WORD);
         }
+        for (String word : WORDS) {
+            for (int place = 0; place < word.length(); place++) {
+                String begin = word.substring(0, place), rest = word.substring(place + 1);
+                dueRefused(begin + "x" + rest + " 5 5", -100, A_WORD);
+                dueRefused(begin + (char) (word.charAt(place) + 1) + rest + " 5 5", -100, A_WORD);
+                dueRefused("dwell 5;" + begin + rest + " 5 5", -108, A_WORD);
+            }
+        }
         for (String none : new String[] {"lina 5 5", "star 5 5", "stopp 5 5", "startstop 5 5", "cam 5 5", "z 5"}) {
             dueRefused(none, -100, A_WORD);
         }

@@ -108,6 +108,8 @@ public final class EdgeThoughtTests extends Edge {
         says("STEEPEST: the ANGLE at which PRESSURE, without sign, is greatest, of several the first");
         due("the second is as great", cam(LINE, 57, 5, LINE, 57, -5, LINE, 57, 5).steepest(), 0);
         due("the second is greater", cam(LINE, 57, 5, LINE, 57, -5, LINE, 57, 6).steepest(), 114);
+        due("half as steep ahead", cam(LINE, 2, 1, LINE, 1, 1).steepest(), 2);
+        due("half as steep behind", cam(LINE, 1, 1, LINE, 2, 1).steepest(), 0);
         due("hardly greater", cam(LINE, 99, 98, LINE, 99, -98, LINE, 98, 98).steepest(), 198);
         due("at its beginning, LIFT is least there", cam(DWELL, 9, 0, LINE, 9, 9).steepest(), 9);
         due("at its end, LIFT is least there", cam(DWELL, 9, 0, LINE, 9, -9).steepest(), 18);
@@ -168,6 +170,8 @@ public final class EdgeThoughtTests extends Edge {
         CamPieces down = cam(LINE, 57, -5);
         dueAll("5 by (RADIUS less 5)", row(down.gentle(10), down.gentle(50), down.gentle(500)), 55, 15, 6);
         due("the end of START", cam(START, 57, 10).gentle(100), 10);
+        // 41 times 139 is 5699, 1 less than 100 times 57.
+        due("hardly more than 41 hundredths", cam(LINE, 1, 1).gentle(41), 140);
     }
 
     private void gentleBounds() {
@@ -307,6 +311,9 @@ public final class EdgeThoughtTests extends Edge {
         due("3 alone does", stiffWith(11, x), 3);
         due("3 floats at 57, 4 at 214", stiffWith(10, x), -5);
         due("none", stiffWith(9, x), -5);
+        // At 1 FORCE is 5 less STIFF, at 2 5 and STIFF less twice the last RISE.
+        due("4 alone", stiffWith(5, cam(LINE, 1, -1, LINE, 1, 2, STOP, 57, 4)), 4);
+        due("5 floats at 1", stiffWith(5, cam(LINE, 1, -1, LINE, 1, 2, STOP, 57, 5)), -5);
     }
 
     private void fastest() {
