@@ -14,8 +14,8 @@ public final class EdgeCallsTests extends Edge {
         t.whatOfCounts(); t.sampleNumbers();
         t.listsHoldNothing(); t.listSizes(); t.listAllNought(); t.setPlaces(); t.setNumbers(); t.getPlaces();
         t.layNumbers(); t.layAngles(); t.layNone(); t.layBeyond(); t.layBelow(); t.layThirty(); t.layIntoNone(); t.laySamples();
-        t.seenNumbers(); t.seenBeyond(); t.seenLongAnd1(); t.seenDwell(); t.seenAsDwell(); t.seenWithRisesAhead(); t.seenAll();
-        t.seenGrid();
+        t.seenNumbers(); t.seenBeyond(); t.seenLongAnd1(); t.seenEachOfThem(); t.seenDwell(); t.seenAsDwell();
+        t.seenWithRisesAhead(); t.seenAll(); t.seenGrid();
         t.imageAndUndo(); t.noImage(); t.imageOfNone(); t.imageOfTwelve(); t.imageTakenAgain(); t.imageHoldsNoMore();
         t.calls512();
         t.end();
@@ -211,6 +211,10 @@ public final class EdgeCallsTests extends Edge {
         due("KIND is of no matter", cam(QUINTIC, 9, 6, LINE, 9, 5).steepestPiece(), 0);
         due("more than a dwell", cam(DWELL, 1, 0, LINE, 359, 1).steepestPiece(), 1);
         due("more than a dwell", cam(DWELL, 1, 0, LINE, 359, -1).steepestPiece(), 1);
+        due("less than one that falls", cam(LINE, 9, -5, LINE, 9, 4).steepestPiece(), 0);
+        due("less than one that falls, both do", cam(LINE, 9, -5, LINE, 9, -4).steepestPiece(), 0);
+        due("no more than one that falls", cam(LINE, 9, -5, LINE, 9, 5, LINE, 9, -5).steepestPiece(), 0);
+        due("more than one that falls", cam(LINE, 9, -5, LINE, 9, 6).steepestPiece(), 1);
     }
 
     private void steepestPieceFirst() {
@@ -553,6 +557,20 @@ public final class EdgeCallsTests extends Edge {
         y.list(0, 30);
         y.lay(0, 0, 0, 1, 30);
         due("LONG 29, all of it", y.seen(0, 0, 30, 0), 1 << START);
+    }
+
+    private void seenEachOfThem() {
+        says("KINDS (bits) by which .. all of these would be so");
+        CamPieces x = cam(LINE, 40, 7);
+        x.list(1, 30);
+        x.lay(1, 0, 0, 1, 30);
+        for (int i = 0; i < 30; i++) {
+            long was = x.get(1, i);
+            x.set(1, i, was + 1);
+            dueAll("off at " + i, row(x.seen(1, 0, 30, 0), x.seen(1, 0, i + 1, 0)), 0, 0);
+            x.set(1, i, was);
+            due("as it was at " + i, x.seen(1, 0, 30, 0), 1 << LINE);
+        }
     }
 
     private void seenDwell() {

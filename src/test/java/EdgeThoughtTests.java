@@ -7,13 +7,14 @@ public final class EdgeThoughtTests extends Edge {
     public static void main(String[] args) {
         EdgeThoughtTests t = new EdgeThoughtTests();
         t.withoutPieces(); t.extremes(); t.leastRadius(); t.leastRadiusHardly(); t.leastRadiusNone(); t.leastRadiusFromEnds();
-        t.steepestFirst(); t.steepestWithoutSign(); t.steepestMissing(); t.steepestLevel(); t.steepestFromEnds();
+        t.steepestFirst(); t.steepestByLittle(); t.steepestWithoutSign(); t.steepestMissing(); t.steepestLevel();
+        t.steepestFromEnds();
         t.gentleHundredths(); t.gentleBounds(); t.gentleThere(); t.gentleFromEnds();
         t.floatingFirst(); t.leastPreload(); t.leastPreloadBounds(); t.leastPreloadFromEnds();
         t.leastStiff(); t.leastStiffBounds(); t.leastStiffBetween(); t.fastest(); t.fastestBounds(); t.fastestBetween();
         t.ownSettingIsOfNoMatter(); t.asIsAfterTelling();
         t.smoothedFewest(); t.smoothedLeast(); t.smoothedKinds(); t.smoothedJoins(); t.smoothedTwelve();
-        t.widestBounds(); t.widestOfAll(); t.widestHundredths();
+        t.widestBounds(); t.widestOfAll(); t.widestHundredths(); t.widestLastLine(); t.widestAtAnyAngle();
         t.end();
     }
 
@@ -115,6 +116,25 @@ public final class EdgeThoughtTests extends Edge {
         due("at its end, LIFT is least there", cam(DWELL, 9, 0, LINE, 9, -9).steepest(), 18);
         due("from side 0", cam(START, 9, -9, DWELL, 9, 0).steepest(), 9);
         due("from side 1", cam(DWELL, 9, 0, STOP, 9, -9).steepest(), 9);
+    }
+
+    private void steepestByLittle() {
+        says("the ANGLE at which PRESSURE, without sign, is greatest, of several the first");
+        // By RADIUS 1 PRESSURE is 57 times RISE by LONG where LIFT is 0: at 0, again at twice LONG, and behind that.
+        for (int one = 1; one <= 13; one++) {
+            for (int other = 1; other <= 13; other++) {
+                for (int rise = 1; rise <= 8; rise++) steepestOf(one, rise, other);
+            }
+        }
+    }
+
+    private void steepestOf(int one, int rise, int other) {
+        for (int otherRise = 1; otherRise <= 8; otherRise++) {
+            CamPieces x = cam(LINE, one, rise, LINE, one, -rise, LINE, other, otherRise);
+            x.tell(0, 1);
+            boolean isMore = otherRise * one > rise * other;
+            due(rise + " by " + one + ", then " + otherRise + " by " + other, x.steepest(), isMore ? 2 * one : 0);
+        }
     }
 
     private void steepestWithoutSign() {
@@ -513,5 +533,37 @@ public final class EdgeThoughtTests extends Edge {
         x.tell(5, 1);
         // 0 1 1 1: ERROR of 2 is 1/2, of 3 2/3.
         dueAll("49, 50, 66, 67", row(x.widest(49), x.widest(50), x.widest(66), x.widest(67)), 1, 2, 2, 60);
+    }
+
+    private void widestLastLine() {
+        says("of SAMPLES at 0, w, 2 w, .. and TOTAL straight lines from each to the next");
+        CamPieces x = cam(DWELL, 60, 0, LINE, 1, 1, DWELL, 1, 0);
+        x.tell(5, 1);
+        // 0 up to 60, then 1 1: of 60 the last line is 2 long and off by 1/2, of 59 3 long and off by 1/3.
+        dueFraction("of 60", x.error(60, 0), x.error(60, 1), 1, 2);
+        dueFraction("of 59", x.error(59, 0), x.error(59, 1), 1, 3);
+        dueAll("33, 34, 49, 50", row(x.widest(33), x.widest(34), x.widest(49), x.widest(50)), 1, 59, 59, 60);
+    }
+
+    private void widestAtAnyAngle() {
+        says("the greatest difference, without sign, at any ANGLE");
+        CamPieces x = cam(DWELL, 300, 0, LINE, 1, 1, LINE, 1, -1, DWELL, 58, 0);
+        x.tell(5, 1);
+        // 0 but for 1 at 301, which is 7 times 43: of 43 off by 42/43 at 300, of 7 by 6/7, of wider ones by 1.
+        dueAll("85, 86, 97, 98, 99, 100", row(x.widest(85), x.widest(86), x.widest(97), x.widest(98), x.widest(99),
+            x.widest(100)), 1, 7, 7, 43, 43, 60);
+        for (int top = 2; top < 360; top += 7) {
+            CamPieces y = cam(DWELL, top - 1, 0, LINE, 1, 1, LINE, 1, -1);
+            y.tell(5, 1);
+            due("0 but for 1 at " + top + ", just so", y.widest(0), 1);
+            due("0 but for 1 at " + top, y.widest(99), greatestDivisor(top));
+        }
+    }
+
+    /** The greatest step by which an angle is the end of a line. */
+    private static int greatestDivisor(int angle) {
+        int step = 60;
+        while (angle % step != 0) step--;
+        return step;
     }
 }
